@@ -337,21 +337,23 @@ public final class ImageForge {
         }
 
         private int halfAt(int place) {
-            return byteAt(place) | (byteAt(place + 1) << 8);
+            return (bytes[place] & 255) | ((bytes[place + 1] & 255) << 8);
         }
 
         private void setHalf(int place, int value) {
-            setByte(place, value);
-            setByte(place + 1, value >> 8);
+            bytes[place] = (byte) value;
+            bytes[place + 1] = (byte) (value >> 8);
         }
 
         private int wordAt(int place) {
-            return halfAt(place) | (halfAt(place + HALF) << 16);
+            return (bytes[place] & 255) | ((bytes[place + 1] & 255) << 8)
+                    | ((bytes[place + 2] & 255) << 16) | ((bytes[place + 3] & 255) << 24);
         }
 
         private void setWord(int place, int value) {
-            setHalf(place, value);
-            setHalf(place + HALF, value >> 16);
+            for (int i = 0; i < WORD; i++) {
+                bytes[place + i] = (byte) (value >> (8 * i));
+            }
         }
 
         private void addToWord(int place, int value) {

@@ -321,6 +321,14 @@ public final class LinkTest {
         Expect.same("link() of less", forge.link(), 192);
         Words.expect("no trace of the longer image", forge, 128, 64, 12, 0x3000, 0, 0, 0);
         Expect.noSuchElement("image(192)", () -> forge.image(192));
+        ImageForge moving = new ImageForge();
+        moving.put(1, 0, 0, 4);
+        moving.define(1, 0, 0, 0);
+        moving.refer(1, 0, 0, 0, 0);
+        moving.link();
+        moving.put(0, 0, 0, 8);
+        moving.link();
+        Words.expect("a word that lies elsewhere now", moving, 128, 64, 12, 0x3008, 0);
     }
 
     private static void imageRefuses() {

@@ -196,6 +196,8 @@ public final class LoadTest {
         spoiled("code up to the end", 28, 192, 0);
         spoiled("code over the end", 28, 193, 3);
         spoiled("code not at a multiple", 24, 63, 0);
+        spoiled("code from 0 on", 24, 0, 0);
+        spoiled("code below 0 by 1", 24, -1, 3);
         ImageForge end = simple();
         Words.set(end, 32, 256);
         loads("an empty section at the end", end, 0);
@@ -245,6 +247,13 @@ public final class LoadTest {
         loads("a block without entries and another one", blocks, 0);
         Expect.same("the word of the other block", Words.inMemory(blocks, 8192 + 68), 4096);
         Expect.same("the first word stays", Words.inMemory(blocks, 8192 + 64), 10 + 68 + 4096);
+        Words.set(blocks, 200, 4096);
+        Words.set(blocks, 208, 0);
+        loads("a block without entries before a great multiple", blocks, 0);
+        ImageForge alone = simple();
+        Words.set(alone, 60, 8);
+        Words.set(alone, 196, 8);
+        loads("a block without entries alone", alone, 0);
         ImageForge noMultiple = simple();
         Words.set(noMultiple, 196, 8);
         Words.set(noMultiple, 60, 8);
@@ -302,6 +311,9 @@ public final class LoadTest {
         Expect.same("the slot is what is offered", Words.inMemory(slots, 8192 + 144), 0x01020304);
         ImageForge header = simple();
         Words.set(header, 192, 0);
+        Words.set(header, 200, 0x30003000);
+        loads("a header whose first word is moved", header, 0);
+        Expect.same("the first word", Words.inMemory(header, 8192), 0x5A4D + 2 * 4096);
         Words.set(header, 200, 0x30083028);
         loads("a header that is moved", header, 0);
         Expect.same("the base", Words.inMemory(header, 8192 + 8), 8192);
