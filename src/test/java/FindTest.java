@@ -1,14 +1,21 @@
-/** Promise 14: find. */
+/** Promise 14: find. Each test bears the sentence that it holds the program to. */
 public final class FindTest {
     public static void main(String[] args) {
-        findsExports();
-        findsNothing();
-        firstOfTwo();
-        countOfPairs();
-        pairsAllInTheSection();
+        addressOfAnExport();
+        firstAndLastName();
+        firstExportOfAName();
+        noneOfThatName();
+        nothingLoaded();
+        noExports();
+        asManyAsTheFirstWordSays();
+        asAreAllInTheSection();
+        withoutAFirstWord();
         whereTheImageSaidThatItLies();
-        exportsThatAreMoved();
-        readsWhatIsLoaded();
+        headerThatTheLoadHasChanged();
+        exportsThatTheLoadHasChanged();
+        addressWraps();
+        whatIsLoadedCounts();
+        changesNothing();
         Expect.end();
     }
 
@@ -35,30 +42,32 @@ public final class FindTest {
         Expect.same("find(9) with " + what, forge.find(9), ninth);
     }
 
-    private static void findsExports() {
+    /** "The address of the first export of a name that what is loaded has" */
+    private static void addressOfAnExport() {
         ImageForge forge = simple();
         found("nothing spoiled", forge, 8192 + 64, 8192 + 66, 8192 + 72);
         forge.load(0);
         Expect.same("find(3) at 0", forge.find(3), 64);
         forge.load(1073741824);
-        Expect.same("find(9) far away", forge.find(9), 1073741824 + 72);
+        Expect.same("find(9) at the last address", forge.find(9), 1073741824 + 72);
     }
 
-    private static void findsNothing() {
-        ImageForge forge = simple();
-        Expect.same("before a load", forge.find(3), 0);
-        forge.load(8192);
-        for (int name : new int[] {0, 4, 15, 16, -1, 128, Integer.MIN_VALUE, Integer.MAX_VALUE}) {
-            Expect.same("find(" + name + ")", forge.find(name), 0);
+    private static void firstAndLastName() {
+        ImageForge forge = Build.withCode(40);
+        for (int name = 0; name < 16; name++) {
+            forge.define(name / 4, name, 0, name < 4 ? name : 0);
+            forge.exported(name, true);
         }
-        ImageForge none = new ImageForge();
-        none.define(0, 0, 0, 0);
-        none.link();
-        none.load(64);
-        Expect.same("a name that is not exported", none.find(0), 0);
+        forge.link();
+        forge.load(64);
+        for (int name = 0; name < 16; name++) {
+            Expect.same("find(" + name + ")", forge.find(name), 64 + (name < 4 ? 64 + name : 104));
+        }
+        Expect.same("find(-1)", forge.find(-1), 0);
+        Expect.same("find(16)", forge.find(16), 0);
     }
 
-    private static void firstOfTwo() {
+    private static void firstExportOfAName() {
         ImageForge forge = simple();
         Words.set(forge, 140, 3);
         found("name 3 twice", forge, 8192 + 64, 0, 8192 + 72);
@@ -66,35 +75,92 @@ public final class FindTest {
         found("name 9 first and last", forge, 8192 + 66, 0, 8192 + 64);
     }
 
-    private static void countOfPairs() {
-        int[] address = {8192 + 64, 8192 + 66, 8192 + 72};
+    /** "0 without one." */
+    private static void noneOfThatName() {
+        ImageForge forge = simple();
+        forge.load(8192);
+        for (int name : new int[] {0, 2, 4, 15, 16, -1, 64, 128, Integer.MIN_VALUE, Integer.MAX_VALUE}) {
+            Expect.same("find(" + name + ")", forge.find(name), 0);
+        }
+    }
+
+    private static void nothingLoaded() {
+        ImageForge forge = simple();
+        Expect.same("linked, not loaded", forge.find(3), 0);
+        forge.spoil(0, 1);
+        forge.load(8192);
+        Expect.same("a refused load", forge.find(3), 0);
+        Expect.same("a new object", new ImageForge().find(0), 0);
+    }
+
+    private static void noExports() {
+        ImageForge none = new ImageForge();
+        none.define(0, 0, 0, 0);
+        none.link();
+        none.load(64);
+        Expect.same("a name that is not exported", none.find(0), 0);
+        ImageForge imported = new ImageForge();
+        imported.imported(0, 0, 0);
+        imported.offer(0, 0, 5);
+        imported.link();
+        imported.load(64);
+        Expect.same("a name that is imported", imported.find(0), 0);
+    }
+
+    /** "pairs from its second word on, as many as the first one says" */
+    private static void asManyAsTheFirstWordSays() {
         for (int count : new int[] {0, 1, 2, 3, 4, 1000, Integer.MAX_VALUE, -1, Integer.MIN_VALUE}) {
             ImageForge forge = simple();
             Words.set(forge, 128, count);
             found("a count of " + count, forge,
-                count > 0 ? address[0] : 0, count > 1 ? address[1] : 0, count > 2 ? address[2] : 0);
+                count > 0 ? 8192 + 64 : 0, count > 1 ? 8192 + 66 : 0, count > 2 ? 8192 + 72 : 0);
         }
     }
 
-    private static void pairsAllInTheSection() {
-        for (int size = 0; size <= 28; size++) {
+    /** "and as are all in the section" */
+    private static void asAreAllInTheSection() {
+        for (int size = 4; size <= 29; size++) {
             ImageForge forge = simple();
             Words.set(forge, 52, size);
             found("a section of " + size, forge,
                 size >= 12 ? 8192 + 64 : 0, size >= 20 ? 8192 + 66 : 0, size >= 28 ? 8192 + 72 : 0);
         }
         ImageForge longer = simple();
-        Words.set(longer, 52, 44);
         Words.set(longer, 128, 5);
         Words.set(longer, 156, 4);
-        Words.set(longer, 160, -8193);
-        Words.set(longer, 164, -7);
-        Words.set(longer, 168, 1);
-        found("a longer section", longer, 8192 + 64, 8192 + 66, 8192 + 72);
-        Expect.same("a place below 0", longer.find(4), -1);
-        Expect.same("a word that is no name of an object", longer.find(-7), 8193);
+        Words.set(longer, 160, 7);
+        for (int size = 28; size <= 44; size++) {
+            Words.set(longer, 52, size);
+            found("a section of " + size, longer, 8192 + 64, 8192 + 66, 8192 + 72);
+            Expect.same("the fourth pair of " + size, longer.find(4), size >= 36 ? 8192 + 7 : 0);
+            Expect.same("the fifth pair of " + size, longer.find(0), size >= 44 ? 8192 : 0);
+        }
+        ImageForge end = simple();
+        Words.set(end, 48, 244);
+        Words.set(end, 52, 12);
+        Words.set(end, 244, Integer.MAX_VALUE);
+        Words.set(end, 248, 9);
+        Words.set(end, 252, 1);
+        found("a section that ends with the image", end, 0, 0, 8192 + 1);
     }
 
+    /** "0 without a first word" */
+    private static void withoutAFirstWord() {
+        for (int size = 0; size < 4; size++) {
+            ImageForge forge = simple();
+            Words.set(forge, 52, size);
+            found("a section of " + size, forge, 0, 0, 0);
+            Words.set(forge, 48, 256 - size);
+            found("the last bytes of the image, " + size, forge, 0, 0, 0);
+        }
+        ImageForge word = simple();
+        Words.set(word, 48, 252);
+        Words.set(word, 52, 4);
+        Words.set(word, 252, 7);
+        found("a first word alone, the last of the image", word, 0, 0, 0);
+    }
+
+    /** "by its section EXPORTS (where the image said that it lies [...])" */
     private static void whereTheImageSaidThatItLies() {
         ImageForge forge = simple();
         Words.set(forge, 48, 136);
@@ -104,30 +170,54 @@ public final class FindTest {
         Expect.same("its first pair", forge.find(66), 8192 + 9);
         Words.set(forge, 48, 128);
         Expect.same("what is spoiled later", forge.find(66), 8192 + 9);
-        ImageForge end = simple();
-        Words.set(end, 48, 256);
-        Words.set(end, 52, 0);
-        found("exports at the end", end, 0, 0, 0);
-        Words.set(end, 48, 252);
-        Words.set(end, 52, 4);
-        Words.set(end, 252, 7);
-        found("exports with a first word alone", end, 0, 0, 0);
-        ImageForge header = simple();
-        Words.set(header, 192, 0);
-        Words.set(header, 200, 0x3000 + 48);
-        found("a header that the load has changed", header, 8192 + 64, 8192 + 66, 8192 + 72);
-        Expect.same("the changed header", Words.inMemory(header, 8192 + 48), 128 + 4096);
+        ImageForge odd = simple();
+        Words.set(odd, 48, 161);
+        Words.set(odd, 161, 1);
+        Words.set(odd, 165, 9);
+        Words.set(odd, 169, 3);
+        found("exports at 161", odd, 0, 0, 8192 + 3);
     }
 
-    private static void exportsThatAreMoved() {
+    private static void headerThatTheLoadHasChanged() {
+        ImageForge forge = simple();
+        Words.set(forge, 192, 0);
+        Words.set(forge, 200, 0x30343030);
+        found("a place and a size that the load has changed", forge, 8192 + 64, 8192 + 66, 8192 + 72);
+        Expect.same("the changed place", Words.inMemory(forge, 8192 + 48), 128 + 4096);
+        Expect.same("the changed size", Words.inMemory(forge, 8192 + 52), 28 + 4096);
+        Words.set(forge, 52, 12);
+        found("a size that only grew by the load", forge, 8192 + 64, 0, 0);
+        Words.set(forge, 52, 3);
+        found("a first word that is only there after the load", forge, 0, 0, 0);
+    }
+
+    /** "that what is loaded has": its bytes, not those of the image */
+    private static void exportsThatTheLoadHasChanged() {
         ImageForge forge = simple();
         Words.set(forge, 192, 128);
-        Words.set(forge, 200, 0x30143000 + 8);
+        Words.set(forge, 200, 0x30143008);
         found("a place and a name that the load has changed", forge, 8192 + 64 + 4096, 8192 + 66, 0);
         Expect.same("the changed name", forge.find(9 + 4096), 8192 + 72);
+        ImageForge count = simple();
+        Words.set(count, 128, 3 - 4096);
+        Words.set(count, 192, 128);
+        Words.set(count, 200, 0x3000);
+        found("a count that the load has changed", count, 8192 + 64, 8192 + 66, 8192 + 72);
     }
 
-    private static void readsWhatIsLoaded() {
+    private static void addressWraps() {
+        ImageForge forge = simple();
+        Words.set(forge, 136, -8193);
+        Words.set(forge, 144, Integer.MAX_VALUE);
+        Words.set(forge, 152, Integer.MIN_VALUE);
+        found("places beyond the image", forge, -1, Integer.MIN_VALUE + 8191, Integer.MIN_VALUE + 8192);
+        Words.set(forge, 132, -7);
+        forge.seal();
+        forge.load(8192);
+        Expect.same("a word that is no name of an object", forge.find(-7), -1);
+    }
+
+    private static void whatIsLoadedCounts() {
         ImageForge forge = simple();
         forge.load(8192);
         Words.set(forge, 136, 1);
@@ -142,5 +232,11 @@ public final class FindTest {
         Expect.same("load()", forge.load(64), 0);
         Expect.same("an export that is no more", forge.find(3), 0);
         Expect.same("another one", forge.find(5), 64 + 66);
+    }
+
+    private static void changesNothing() {
+        Refused.answers("find(0)", 8192 + 68, Build::rich, f -> f.find(0));
+        Refused.answers("find(15)", 0, Build::rich, f -> f.find(15));
+        Refused.answers("find(-1)", 0, Build::rich, f -> f.find(-1));
     }
 }
